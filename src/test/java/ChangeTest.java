@@ -76,6 +76,10 @@ public final class ChangeTest {
         Expect.state(12, forge, "upload with 80 commits", () -> forge.upload(0, 0));
         Expect.state(13, forge, "rebase with 80 commits", () -> forge.rebase(1, 1));
         Expect.due(21, "commitOf(0, 76)", forge.commitOf(0, 76), 79);
+        forge.find(0, 76, 3, 0, 0, 55);
+        Expect.due(32, "takeFixes with 80 commits", forge.takeFixes(0, 1), 1);
+        Expect.due(7, "the last commit is as before", forge.line(79, 3, 0), NONE);
+        Expect.due(7, "the desk has the line", forge.line(NONE, 3, 0), 55);
         forge.addRule(15, 0, 0);
         Expect.due(47, "no room for what lands", forge.land(0, 0), NONE);
         Expect.due(19, "stateOf(0)", forge.stateOf(0), OPEN);

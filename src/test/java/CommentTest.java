@@ -11,6 +11,7 @@ public final class CommentTest {
         following();
         lostAndFound();
         soughtAtJustOnePlace();
+        linesOfAnotherIndent();
         theGreatestNumberTells();
         wrongNumbers();
         Expect.finish("CommentTest");
@@ -208,6 +209,17 @@ public final class CommentTest {
         fill(forge, 0, 1, 1, 5);
         forge.upload(0, 0);
         Expect.due(29, "at one", forge.shown(1, 6), 4);
+    }
+
+    private static void linesOfAnotherIndent() {
+        ReviewForge forge = withLines(0, 1, 2);
+        forge.comment(1, 0, 0, 0, 0, 2, true);
+        fill(forge, 0, 101, 2);
+        forge.upload(0, 0);
+        Expect.due(29, "an indent loses the line", forge.shown(0, 1), 2);
+        fill(forge, 0, 101, 102);
+        forge.upload(0, 0);
+        Expect.due(29, "and the other one", forge.shown(0, 2), 0);
     }
 
     private static void theGreatestNumberTells() {

@@ -52,10 +52,17 @@ final class Expect {
         try {
             got = "answered " + run.run();
         } catch (RuntimeException thrown) {
-            got = thrown.getClass().getSimpleName();
+            got = nameOf(thrown);
         }
         due(promise, call, got, due.getSimpleName());
         due(promise, call + " changed something", Snapshot.of(forge), earlier);
+    }
+
+    /** What the machine or the library throws is told apart from what the program throws itself. */
+    static String nameOf(Throwable thrown) {
+        String place = thrown.getStackTrace()[0].getClassName();
+        boolean isOwn = place.startsWith("ReviewForge") || place.startsWith("Model");
+        return thrown.getClass().getSimpleName() + (isOwn ? "" : " in " + place);
     }
 
     static void finish(String test) {

@@ -18,10 +18,12 @@ public final class LandingTest {
         aSquashedParentsCommit();
         bothRepositories();
         conflicts();
+        indentsInMerges();
         tooManyCommits();
         notReady();
         outdated();
         theParentLandsWithIt();
+        twentyInAChain();
         theOrder();
         landingRefused();
         Expect.finish("LandingTest");
@@ -247,17 +249,51 @@ public final class LandingTest {
         Expect.due(9, "tip(0)", forge.tip(0), 5);
         Expect.due(9, "tip(1)", forge.tip(1), 1);
         Expect.due(19, "stateOf(2)", forge.stateOf(2), OPEN);
+        openOn(forge, 0, 0, 5);
         forge.setTopic(1, NONE);
+        forge.setTopic(3, 0);
+        Expect.due(47, "a conflict behind one that would land", forge.land(0, 2), NONE);
+        Expect.due(9, "tip(1)", forge.tip(1), 1);
+        Expect.due(6, "no commit is left", forge.commits(), 7);
+        forge.setTopic(3, NONE);
         Expect.due(47, "alone it lands", forge.land(0, 2), 1);
-        Expect.due(9, "tip(1)", forge.tip(1), 6);
+        Expect.due(9, "tip(1)", forge.tip(1), 7);
+        Expect.due(10, "namedAfter(7)", forge.namedAfter(7), 2);
         forge.take(5);
         for (int many = 0; many < 9; many++) {
             forge.put(0, 0, 90 + many);
         }
         forge.open(0);
         openOn(forge, 5, 0, 7);
-        Expect.due(47, "ten lines", forge.land(0, 3), 1);
-        Expect.due(47, "eleven would be too many", forge.land(0, 4), NONE);
+        Expect.due(47, "ten lines", forge.land(0, 4), 1);
+        Expect.due(47, "eleven would be too many", forge.land(0, 5), NONE);
+    }
+
+    /** Lines of the same word, but of another indent, are not the same. */
+    private static void indentsInMerges() {
+        ReviewForge forge = allReady();
+        openOn(forge, 0, 0, 1);
+        openOn(forge, 2, 0, 2);
+        openOn(forge, 3, 0, 3);
+        forge.land(0, 2);
+        int tip = forge.tip(0);
+        forge.take(tip);
+        forge.cut(0, 0);
+        forge.put(0, 0, 101);
+        forge.open(0);
+        forge.take(tip);
+        forge.cut(0, 2);
+        forge.put(0, 2, 203);
+        forge.open(0);
+        forge.take(tip);
+        forge.cut(0, 0);
+        forge.put(0, 0, 201);
+        forge.open(0);
+        Expect.due(47, "an indent at the beginning", forge.land(0, 3), 1);
+        Expect.due(47, "another one at the end", forge.land(0, 4), 1);
+        Expect.due(7, "both are there", forge.line(forge.tip(0), 0, 0), 101);
+        Expect.due(7, "both are there", forge.line(forge.tip(0), 0, 2), 203);
+        Expect.due(47, "another one at the beginning", forge.land(0, 5), NONE);
     }
 
     private static void tooManyCommits() {
@@ -332,6 +368,31 @@ public final class LandingTest {
         Expect.due(47, "an abandoned parent does not land", forge.land(0, 3), 0);
         forge.addRule(15, 0, 64);
         Expect.due(47, "where it must not", forge.land(0, 3), 1);
+    }
+
+    private static void twentyInAChain() {
+        for (int way = FORWARD; way <= SQUASH; way++) {
+            ReviewForge forge = allReady();
+            forge.setWay(0, way);
+            int last = 0;
+            for (int change = 0; change < 20; change++) {
+                last = forge.commitOf(openOn(forge, last, change / 9, change), 0);
+            }
+            Expect.due(46, "all of the chain", forge.group(19), (1 << 20) - 1);
+            Expect.due(47, "all of the chain", forge.land(0, 19), 20);
+            for (int change = 0; change < 20; change++) {
+                Expect.due(19, "stateOf", forge.stateOf(change), LANDED);
+            }
+            int[] commits = {22, 42, 23};
+            Expect.due(6, "commits()", forge.commits(), commits[way]);
+            Expect.due(10, "the tip is named", forge.namedAfter(forge.tip(0)), 19);
+            Expect.due(7, "the last line", forge.line(forge.tip(0), 2, 1), 19);
+            Expect.due(7, "the first line", forge.line(forge.tip(0), 0, 0), 0);
+            Expect.index(5, forge, "cut(4, 0)", () -> forge.cut(4, 0));
+            Expect.index(4, forge, "put(4, 0, 0)", () -> forge.put(4, 0, 0));
+            Expect.index(7, forge, "line(NONE, 4, 0)", () -> forge.line(NONE, 4, 0));
+            Expect.index(9, forge, "tip(2)", () -> forge.tip(2));
+        }
     }
 
     /** By rising numbers, but a parent with a greater number ahead of the one whose parent it is. */

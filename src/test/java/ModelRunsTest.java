@@ -105,7 +105,7 @@ public final class ModelRunsTest {
         try {
             return String.valueOf(method.invoke(object, arguments));
         } catch (InvocationTargetException thrown) {
-            return "throws " + thrown.getCause().getClass().getSimpleName();
+            return "throws " + Expect.nameOf(thrown.getCause());
         } catch (IllegalAccessException closed) {
             throw new IllegalStateException(closed);
         }
