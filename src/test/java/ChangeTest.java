@@ -17,6 +17,7 @@ public final class ChangeTest {
         noChangeAboveItself();
         kinds();
         kindsWithEqualBases();
+        kindsByWhatIsDropped();
         rebasing();
         rebasingOnTheLanded();
         rebasingRefused();
@@ -226,6 +227,39 @@ public final class ChangeTest {
         forge.put(2, 0, 30);
         forge.upload(1, 1);
         Expect.due(22, "one hunk more", forge.kindOf(1, 3), REWORK);
+    }
+
+    /** As many lines dropped and added, but not the same ones. */
+    private static void kindsByWhatIsDropped() {
+        int[][] dropped = {{1, 2}, {1, 3}, {4, 2}};
+        for (int other = 0; other < 3; other++) {
+            for (int added = 5; added < 7; added++) {
+                ReviewForge forge = new ReviewForge();
+                for (int place = 0; place < 2; place++) {
+                    forge.put(0, place, dropped[0][place]);
+                }
+                forge.put(0, 2, 9);
+                forge.open(0);
+                forge.take(0);
+                for (int place = 0; place < 2; place++) {
+                    forge.put(0, place, dropped[other][place]);
+                }
+                forge.put(0, 2, 9);
+                forge.open(0);
+                forge.take(2);
+                forge.cut(0, 0);
+                forge.cut(0, 0);
+                forge.put(0, 0, 5);
+                forge.open(0);
+                forge.take(3);
+                forge.cut(0, 0);
+                forge.cut(0, 0);
+                forge.put(0, 0, added);
+                forge.upload(0, 2);
+                boolean isAlike = other == 0 && added == 5;
+                Expect.due(22, "dropped " + other + ", added " + added, forge.kindOf(2, 1), isAlike ? TRIVIAL : REWORK);
+            }
+        }
     }
 
     private static void rebasing() {

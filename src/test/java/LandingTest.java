@@ -18,6 +18,7 @@ public final class LandingTest {
         aSquashedParentsCommit();
         bothRepositories();
         conflicts();
+        anEleventhLine();
         indentsInMerges();
         tooManyCommits();
         notReady();
@@ -267,6 +268,27 @@ public final class LandingTest {
         openOn(forge, 5, 0, 7);
         Expect.due(47, "ten lines", forge.land(0, 4), 1);
         Expect.due(47, "eleven would be too many", forge.land(0, 5), NONE);
+    }
+
+    /** It does not matter whether the eleventh line is a new one or one that was there. */
+    private static void anEleventhLine() {
+        for (int more = 3; more <= 5; more++) {
+            ReviewForge forge = allReady();
+            openOn(forge, 0, 0, 1);
+            openOn(forge, 2, 0, 2);
+            forge.land(0, 1);
+            int tip = forge.tip(0);
+            for (int place = 0; place < 2; place++) {
+                forge.take(tip);
+                for (int many = 0; many < (place == 0 ? 5 : more); many++) {
+                    forge.put(0, place, 50 + 10 * place + many);
+                }
+                forge.open(0);
+            }
+            Expect.due(47, "seven lines", forge.land(0, 2), 1);
+            Expect.due(47, "five and " + more + " more", forge.land(0, 3), more == 3 ? 1 : NONE);
+            Expect.due(13, "the last line", forge.line(forge.tip(0), 0, more == 3 ? 9 : 6), 2);
+        }
     }
 
     /** Lines of the same word, but of another indent, are not the same. */
