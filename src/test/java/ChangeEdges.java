@@ -490,6 +490,10 @@ final class ChangeEdges {
         forge.restore(0);
         forge.abandon(0, 4);
         Edge.due("not an abandoned one", forge.abandon(0, 0), 1);
+        ReviewForge up = changes(2);
+        up.take(3);
+        up.upload(0, 0);
+        Edge.due("a child with a lower number", up.abandon(0, 1), 1);
         ReviewForge all = changes(1);
         for (int child = 1; child < 20; child++) {
             all.take(2);

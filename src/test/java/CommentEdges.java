@@ -242,6 +242,16 @@ final class CommentEdges {
         return forge;
     }
 
+    /** The change 1 of the person 5, with a thread of the person 4 on its patch set 0; one of both changes is private. */
+    private static ReviewForge twoChanges(int hidden) {
+        ReviewForge forge = House.opened(1);
+        forge.open(5);
+        forge.comment(4, 1, 0, 0, 0, 1, true);
+        forge.publish(4, 1);
+        forge.setFlags(hidden, false, true);
+        return forge;
+    }
+
     private static void answerRefused() {
         Edge.says(27, "Returns its number.");
         Edge.due("the next one", thread().answer(4, 0, true), 4);
@@ -261,6 +271,8 @@ final class CommentEdges {
         Edge.state("an answer", CommentEdges::thread, forge -> forge.answer(0, 1, true));
         Edge.state("an answer that is a draft", CommentEdges::thread, forge -> forge.answer(0, 2, true));
         Edge.state("not seen", CommentEdges::hiddenThread, forge -> forge.answer(4, 0, true));
+        Edge.state("not seen, of another change", () -> twoChanges(1), forge -> forge.answer(0, 0, true));
+        Edge.allowed("the other one is not seen", () -> twoChanges(0), forge -> forge.answer(3, 0, true));
         Edge.allowed("its owner", CommentEdges::hiddenThread, forge -> forge.answer(0, 0, true));
         Edge.allowed("a reviewer", CommentEdges::hiddenThread, forge -> forge.answer(2, 0, true));
         Edge.allowed("59 comments", () -> comments(59), forge -> forge.answer(0, 0, true));

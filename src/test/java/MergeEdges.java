@@ -13,6 +13,7 @@ final class MergeEdges {
         touchingAtTheEnds();
         conflicts();
         hunksThatAreTheSame();
+        behindOtherHunks();
         tooManyLines();
     }
 
@@ -241,6 +242,39 @@ final class MergeEdges {
         merged("none of both", House.of(1, 2), House.of(1, 2), House.of(1, 2), "1 2");
         merged("all of ten are other ones, the same", House.row(0, 10), House.row(20, 10), House.row(20, 10),
                 "20 21 22 23 24 25 26 27 28 29");
+    }
+
+    /** Places count in the old file, also behind a hunk by which the new one is longer or shorter. */
+    private static void behindOtherHunks() {
+        Edge.says("if in the old file each of both begins at the end of the other one's dropped lines or ahead of that.");
+        int[] old = House.row(0, 8);
+        int[] longer = House.of(50, 51, 0, 1, 2, 9, 4, 5, 6, 7);
+        merged("longer: at the same place", old, longer, House.of(0, 1, 2, 60, 4, 5, 6, 7), "conflict");
+        merged("longer: at the end", old, longer, House.of(0, 1, 2, 3, 60, 5, 6, 7), "conflict");
+        merged("longer: one line behind that", old, longer, House.of(0, 1, 2, 3, 4, 60, 6, 7), "50 51 0 1 2 9 4 60 6 7");
+        merged("longer: two lines behind that", old, longer, House.of(0, 1, 2, 3, 4, 5, 60, 7), "50 51 0 1 2 9 4 5 60 7");
+        merged("longer: one line ahead", old, longer, House.of(0, 60, 2, 3, 4, 5, 6, 7), "50 51 0 60 2 9 4 5 6 7");
+        merged("longer: the same", old, longer, House.of(0, 1, 2, 9, 4, 5, 6, 7), "50 51 0 1 2 9 4 5 6 7");
+        int[] shorter = House.of(2, 3, 4, 9, 6, 7);
+        merged("shorter: at the same place", old, shorter, House.of(0, 1, 2, 3, 4, 60, 6, 7), "conflict");
+        merged("shorter: at the end", old, shorter, House.of(0, 1, 2, 3, 4, 5, 60, 7), "conflict");
+        merged("shorter: one line ahead", old, shorter, House.of(0, 1, 2, 60, 4, 5, 6, 7), "2 60 4 9 6 7");
+        merged("shorter: one line behind the first one", old, shorter, House.of(0, 1, 2, 60, 4, 5, 6, 7), "2 60 4 9 6 7");
+        merged("shorter: one line behind the last one", old, shorter, House.of(0, 1, 2, 3, 4, 5, 6, 60), "2 3 4 9 6 60");
+        merged("shorter: the same", old, shorter, House.of(0, 1, 2, 3, 4, 9, 6, 7), "2 3 4 9 6 7");
+        merged("one longer, one shorter, the same behind it", old, House.of(0, 50, 51, 1, 2, 3, 4, 5, 9, 7),
+                House.of(0, 1, 2, 4, 5, 9, 7), "0 50 51 1 2 4 5 9 7");
+        merged("one longer, one shorter, not the same behind it", old, House.of(0, 50, 51, 1, 2, 3, 4, 5, 9, 7),
+                House.of(0, 1, 2, 4, 5, 60, 7), "conflict");
+        Edge.says("Two hunks are alike if they drop the same lines, and add the same lines.");
+        Edge.due("the same behind a longer one", areAlike(House.of(1, 2, 3), House.of(8, 8, 1, 2, 9, 3), House.of(1, 2, 3, 4),
+                House.of(8, 8, 1, 2, 9, 3, 4)), true);
+        Edge.due("others behind a longer one", areAlike(House.of(1, 2, 3), House.of(8, 8, 1, 2, 9, 3), House.of(1, 2, 3, 4),
+                House.of(8, 8, 1, 2, 7, 3, 4)), false);
+        Edge.due("others behind a shorter one", areAlike(House.of(1, 2, 3, 4, 5), House.of(3, 6, 5), House.of(1, 2, 3, 4, 5, 9),
+                House.of(3, 7, 5, 9)), false);
+        Edge.due("the same behind a shorter one", areAlike(House.of(1, 2, 3, 4, 5), House.of(3, 6, 5), House.of(1, 2, 3, 4, 5, 9),
+                House.of(3, 6, 5, 9)), true);
     }
 
     private static void tooManyLines() {

@@ -180,6 +180,18 @@ final class PeopleEdges {
         work.vote(1, 0, 0, REVIEW, 1);
         work.setFlags(0, false, true);
         Edge.due("no work has ended", work.whoseTurn(0), 1 + 4 + 16);
+        ReviewForge seen = withTurns();
+        seen.setFlags(0, true, false);
+        seen.addReviewer(1, 0);
+        seen.vote(1, 0, 0, REVIEW, 1);
+        seen.upload(0, 0);
+        Edge.due("nobody in work, but not private", seen.whoseTurn(0), 0);
+        ReviewForge hidden = withTurns();
+        hidden.setFlags(0, false, true);
+        hidden.vote(0, 0, 0, REVIEW, 0);
+        hidden.vote(1, 0, 0, REVIEW, 1);
+        hidden.addReviewer(2, 0);
+        Edge.due("private, but not in work", hidden.whoseTurn(0), 1 + 4);
         abandoned.comment(1, 0, 0, 0, 0, 1, true);
         abandoned.publish(1, 0);
         Edge.due("nobody when abandoned", abandoned.whoseTurn(0), 0);
