@@ -19,18 +19,9 @@ public final class CommentTest {
 
     private static ReviewForge withLines(int file, int... lines) {
         ReviewForge forge = new ReviewForge();
-        fill(forge, file, lines);
+        House.fill(forge, file, lines);
         forge.open(0);
         return forge;
-    }
-
-    private static void fill(ReviewForge forge, int file, int... lines) {
-        while (forge.line(NONE, file, 0) != NONE) {
-            forge.cut(file, 0);
-        }
-        for (int place = 0; place < lines.length; place++) {
-            forge.put(file, place, lines[place]);
-        }
     }
 
     private static void draftsAndThreads() {
@@ -142,17 +133,17 @@ public final class CommentTest {
     private static void following() {
         ReviewForge forge = withLines(2, 1, 2, 3, 4);
         forge.comment(1, 0, 0, 2, 1, 3, true);
-        fill(forge, 2, 9, 1, 2, 8, 4);
+        House.fill(forge, 2, 9, 1, 2, 8, 4);
         forge.upload(0, 0);
         Expect.due(29, "in its own set", forge.shown(0, 0), 14);
         Expect.due(29, "those that are left", forge.shown(0, 1), 4 + 16);
-        fill(forge, 2, 2, 2, 8, 4, 3);
+        House.fill(forge, 2, 2, 2, 8, 4, 3);
         forge.upload(0, 0);
         Expect.due(29, "the pairs are those of the row", forge.shown(0, 2), 1 + 8);
-        fill(forge, 2, 4);
+        House.fill(forge, 2, 4);
         forge.upload(0, 0);
         Expect.due(29, "one is left", forge.shown(0, 3), 1);
-        fill(forge, 2, 2, 3, 4);
+        House.fill(forge, 2, 2, 3, 4);
         forge.upload(0, 0);
         Expect.due(29, "what was left is followed, not looked for", forge.shown(0, 4), 4);
         forge.comment(1, 0, 2, 2, 0, 1, true);
@@ -165,23 +156,23 @@ public final class CommentTest {
     private static void lostAndFound() {
         ReviewForge forge = withLines(0, 1, 2, 3, 4);
         forge.comment(1, 0, 0, 0, 1, 2, true);
-        fill(forge, 0, 1, 4);
+        House.fill(forge, 0, 1, 4);
         forge.upload(0, 0);
         Expect.due(29, "lost", forge.shown(0, 1), 0);
-        fill(forge, 0, 1, 2, 4, 3);
+        House.fill(forge, 0, 1, 2, 4, 3);
         forge.upload(0, 0);
         Expect.due(29, "not one behind the other", forge.shown(0, 2), 0);
-        fill(forge, 0, 2, 103, 1);
+        House.fill(forge, 0, 2, 103, 1);
         forge.upload(0, 0);
         Expect.due(29, "not as they were", forge.shown(0, 3), 0);
-        fill(forge, 0, 7, 7, 2, 3);
+        House.fill(forge, 0, 7, 7, 2, 3);
         forge.upload(0, 0);
         Expect.due(29, "found", forge.shown(0, 4), 12);
-        fill(forge, 0, 7, 7, 8, 2);
+        House.fill(forge, 0, 7, 7, 8, 2);
         forge.upload(0, 0);
         Expect.due(29, "followed from there", forge.shown(0, 5), 8);
-        fill(forge, 0, 5);
-        fill(forge, 1, 2, 3);
+        House.fill(forge, 0, 5);
+        House.fill(forge, 1, 2, 3);
         forge.upload(0, 0);
         Expect.due(29, "lost again, and not looked for in another file", forge.shown(0, 6), 0);
     }
@@ -190,23 +181,23 @@ public final class CommentTest {
         ReviewForge forge = withLines(0, 1, 1, 5);
         forge.comment(1, 0, 0, 0, 0, 2, true);
         forge.comment(1, 0, 0, 0, 2, 1, true);
-        fill(forge, 0);
+        House.fill(forge, 0);
         forge.upload(0, 0);
         Expect.due(29, "lost in an empty file", forge.shown(0, 1), 0);
-        fill(forge, 0, 1, 1, 1);
+        House.fill(forge, 0, 1, 1, 1);
         forge.upload(0, 0);
         Expect.due(29, "at two places that share a line", forge.shown(0, 2), 0);
-        fill(forge, 0);
+        House.fill(forge, 0);
         forge.upload(0, 0);
-        fill(forge, 0, 5, 1, 1, 5);
+        House.fill(forge, 0, 5, 1, 1, 5);
         forge.upload(0, 0);
         Expect.due(29, "at one place", forge.shown(0, 4), 6);
         Expect.due(29, "the other one at two", forge.shown(1, 4), 0);
         // where a line was added with one like it, the pair is the first one, and nothing is looked for
-        fill(forge, 0, 1, 1, 5, 5);
+        House.fill(forge, 0, 1, 1, 5, 5);
         forge.upload(0, 0);
         Expect.due(29, "still at two", forge.shown(1, 5), 0);
-        fill(forge, 0, 1, 1, 5);
+        House.fill(forge, 0, 1, 1, 5);
         forge.upload(0, 0);
         Expect.due(29, "at one", forge.shown(1, 6), 4);
     }
@@ -214,10 +205,10 @@ public final class CommentTest {
     private static void linesOfAnotherIndent() {
         ReviewForge forge = withLines(0, 1, 2);
         forge.comment(1, 0, 0, 0, 0, 2, true);
-        fill(forge, 0, 101, 2);
+        House.fill(forge, 0, 101, 2);
         forge.upload(0, 0);
         Expect.due(29, "an indent loses the line", forge.shown(0, 1), 2);
-        fill(forge, 0, 101, 102);
+        House.fill(forge, 0, 101, 102);
         forge.upload(0, 0);
         Expect.due(29, "and the other one", forge.shown(0, 2), 0);
     }

@@ -11,20 +11,11 @@ public final class DifferenceTest {
         Expect.finish("DifferenceTest");
     }
 
-    private static void fill(ReviewForge forge, int file, int... lines) {
-        while (forge.line(NONE, file, 0) != NONE) {
-            forge.cut(file, 0);
-        }
-        for (int place = 0; place < lines.length; place++) {
-            forge.put(file, place, lines[place]);
-        }
-    }
-
     private static void hunksOfAFile() {
         ReviewForge forge = new ReviewForge();
-        fill(forge, 0, 1, 2, 3, 4, 5);
+        House.fill(forge, 0, 1, 2, 3, 4, 5);
         forge.open(0);
-        fill(forge, 0, 8, 1, 3, 104, 5, 6, 7);
+        House.fill(forge, 0, 8, 1, 3, 104, 5, 6, 7);
         forge.upload(0, 0);
         Expect.due(24, "hunks", forge.hunks(0, 0, 1, 0, false), 4);
         Expect.due(25, "hunk 0 adds at the beginning", forge.hunkAt(0, 0, 1, 0, false, 0), 1);
@@ -41,7 +32,7 @@ public final class DifferenceTest {
         Expect.due(24, "a set and itself", forge.hunks(0, 1, 1, 0, false), 0);
         Expect.due(25, "a set and itself", forge.hunkAt(0, 1, 1, 0, false, 0), NONE);
         Expect.due(24, "another file", forge.hunks(0, 0, 1, 1, false), 0);
-        fill(forge, 0);
+        House.fill(forge, 0);
         forge.upload(0, 0);
         Expect.due(24, "all dropped", forge.hunks(0, 0, 2, 0, false), 1);
         Expect.due(25, "all dropped", forge.hunkAt(0, 0, 2, 0, false, 0), 5 * 10000);
@@ -50,13 +41,13 @@ public final class DifferenceTest {
     /** As many pairs as can be had; of several ways the one that keeps the line of the first file, if it must. */
     private static void pairsThatAreChosen() {
         ReviewForge forge = new ReviewForge();
-        fill(forge, 0, 1, 2);
-        fill(forge, 1, 1, 2, 3, 1, 2);
-        fill(forge, 2, 5, 5);
+        House.fill(forge, 0, 1, 2);
+        House.fill(forge, 1, 1, 2, 3, 1, 2);
+        House.fill(forge, 2, 5, 5);
         forge.open(0);
-        fill(forge, 0, 2, 1);
-        fill(forge, 1, 3, 1, 2, 3);
-        fill(forge, 2, 5);
+        House.fill(forge, 0, 2, 1);
+        House.fill(forge, 1, 3, 1, 2, 3);
+        House.fill(forge, 2, 5);
         forge.upload(0, 0);
         Expect.due(24, "a swap", forge.hunks(0, 0, 1, 0, false), 2);
         Expect.due(25, "the first line of the first file goes", forge.hunkAt(0, 0, 1, 0, false, 0), 10000);
@@ -69,21 +60,21 @@ public final class DifferenceTest {
 
     private static void whatARebaseBrought() {
         ReviewForge forge = new ReviewForge();
-        fill(forge, 0, 1, 2, 3, 4, 5, 6);
+        House.fill(forge, 0, 1, 2, 3, 4, 5, 6);
         forge.open(0);
-        fill(forge, 0, 7, 1, 2, 7, 3, 4, 5);
+        House.fill(forge, 0, 7, 1, 2, 7, 3, 4, 5);
         forge.upload(0, 0);
         forge.take(2);
-        fill(forge, 0, 1, 2, 3, 4, 5, 6, 9);
+        House.fill(forge, 0, 1, 2, 3, 4, 5, 6, 9);
         forge.open(1);
         forge.take(3);
-        fill(forge, 0, 7, 1, 2, 7, 3, 4, 7, 5, 9);
+        House.fill(forge, 0, 7, 1, 2, 7, 3, 4, 7, 5, 9);
         forge.upload(1, 1);
         Expect.due(24, "between both bases", forge.hunks(0, 0, 1, 0, false), 3);
         // the hunks between the sets: 7 comes (three times), 6 goes; those that add 7 alone are brought, and the last
         Expect.due(24, "what the base brought is left out", forge.hunks(1, 0, 1, 0, false), 0);
         forge.take(3);
-        fill(forge, 0, 7, 1, 8, 2, 7, 3, 4, 5, 6, 9);
+        House.fill(forge, 0, 7, 1, 8, 2, 7, 3, 4, 5, 6, 9);
         forge.upload(1, 1);
         Expect.due(24, "hunks of its own stay", forge.hunks(1, 0, 2, 0, false), 1);
         Expect.due(25, "the one that stays", forge.hunkAt(1, 0, 2, 0, false, 0), 1000201);
@@ -93,17 +84,17 @@ public final class DifferenceTest {
 
     private static void alikeByWords() {
         ReviewForge forge = new ReviewForge();
-        fill(forge, 0, 1, 2);
+        House.fill(forge, 0, 1, 2);
         forge.open(0);
-        fill(forge, 0, 1, 2, 105);
+        House.fill(forge, 0, 1, 2, 105);
         forge.upload(0, 0);
         forge.take(2);
-        fill(forge, 0, 1, 2);
-        fill(forge, 1, 4);
+        House.fill(forge, 0, 1, 2);
+        House.fill(forge, 1, 4);
         forge.open(1);
         forge.take(3);
-        fill(forge, 0, 1, 2, 205);
-        fill(forge, 1, 304);
+        House.fill(forge, 0, 1, 2, 205);
+        House.fill(forge, 1, 304);
         forge.upload(1, 1);
         Expect.due(24, "with another indent it is not alike", forge.hunks(1, 0, 1, 0, false), 1);
         Expect.due(25, "the hunk", forge.hunkAt(1, 0, 1, 0, false, 0), 2000201);

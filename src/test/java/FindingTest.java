@@ -12,15 +12,6 @@ public final class FindingTest {
         Expect.finish("FindingTest");
     }
 
-    private static void fill(ReviewForge forge, int file, int... lines) {
-        while (forge.line(NONE, file, 0) != NONE) {
-            forge.cut(file, 0);
-        }
-        for (int place = 0; place < lines.length; place++) {
-            forge.put(file, place, lines[place]);
-        }
-    }
-
     private static void desk(int promise, String call, ReviewForge forge, int file, int... want) {
         for (int place = 0; place < want.length; place++) {
             Expect.due(promise, call + ": line " + place, forge.line(NONE, file, place), want[place]);
@@ -31,8 +22,8 @@ public final class FindingTest {
     private static void fixesTaken() {
         ReviewForge forge = new ReviewForge();
         forge.take(1);
-        fill(forge, 0, 1, 2, 3, 4, 5);
-        fill(forge, 1, 6);
+        House.fill(forge, 0, 1, 2, 3, 4, 5);
+        House.fill(forge, 1, 6);
         forge.open(0);
         Expect.due(31, "it takes two out, one comes", forge.find(0, 0, 0, 1, 2, 50), 0);
         Expect.due(31, "one comes at the end", forge.find(0, 0, 0, 5, 0, 51), 1);
@@ -54,7 +45,7 @@ public final class FindingTest {
 
     private static void fixesThatTouch() {
         ReviewForge forge = new ReviewForge();
-        fill(forge, 0, 1, 2, 3, 4, 5);
+        House.fill(forge, 0, 1, 2, 3, 4, 5);
         forge.open(0);
         forge.find(0, 0, 0, 1, 1, 50);
         forge.find(0, 0, 0, 2, 1, 51);
@@ -83,7 +74,7 @@ public final class FindingTest {
 
     private static void fixesOfTheCurrentSet() {
         ReviewForge forge = new ReviewForge();
-        fill(forge, 0, 1, 2, 3);
+        House.fill(forge, 0, 1, 2, 3);
         forge.open(0);
         forge.open(1);
         forge.find(0, 0, 0, 0, 1, 50);
@@ -104,7 +95,7 @@ public final class FindingTest {
 
     private static void tooManyLines() {
         ReviewForge forge = new ReviewForge();
-        fill(forge, 0, 0, 1, 2, 3, 4, 5, 6, 7, 8, 9);
+        House.fill(forge, 0, 0, 1, 2, 3, 4, 5, 6, 7, 8, 9);
         forge.open(0);
         forge.find(0, 0, 0, 10, 0, 50);
         forge.find(0, 0, 0, 3, 0, 51);
@@ -118,7 +109,7 @@ public final class FindingTest {
 
     private static void fortyFindings() {
         ReviewForge forge = new ReviewForge();
-        fill(forge, 0, 0, 1, 2, 3, 4, 5, 6, 7, 8, 9);
+        House.fill(forge, 0, 0, 1, 2, 3, 4, 5, 6, 7, 8, 9);
         forge.open(0);
         for (int number = 0; number < 40; number++) {
             int place = number == 30 ? 9 : 0;
@@ -132,7 +123,7 @@ public final class FindingTest {
 
     private static void findingsRefused() {
         ReviewForge forge = new ReviewForge();
-        fill(forge, 3, 1, 2);
+        House.fill(forge, 3, 1, 2);
         forge.open(0);
         Expect.index(31, forge, "no such change", () -> forge.find(1, 0, 3, 0, 0, 0));
         Expect.index(31, forge, "no such change", () -> forge.find(-1, 0, 3, 0, 0, 0));

@@ -17,13 +17,8 @@ final class House {
 
     /** Puts so many lines into a file of the desk that it has 10. */
     static void fillUp(ReviewForge forge, int file) {
-        int size = 0;
-        while (forge.line(NONE, file, size) != NONE) {
-            size++;
-        }
-        while (size < 10) {
+        for (int size = sizeOfDesk(forge, file); size < 10; size++) {
             forge.put(file, size, 80 + size);
-            size++;
         }
     }
 
@@ -46,6 +41,21 @@ final class House {
         forge.take(commit);
         fill(forge, file, lines);
         return forge.open(0);
+    }
+
+    /** Opens a change of the person 0 on a commit, with one more line at the end of a file; answers its number. */
+    static int openWithMore(ReviewForge forge, int commit, int file, int line) {
+        forge.take(commit);
+        forge.put(file, sizeOfDesk(forge, file), line);
+        return forge.open(0);
+    }
+
+    private static int sizeOfDesk(ReviewForge forge, int file) {
+        int size = 0;
+        while (forge.line(NONE, file, size) != NONE) {
+            size++;
+        }
+        return size;
     }
 
     /** Uploads a patch set on a commit, with these lines in one file; answers its number. */

@@ -33,22 +33,11 @@ final class LandingEdges {
         return House.allReady(new ReviewForge());
     }
 
-    /** Opens a change of the person 0 on a commit, with one more line at the end of a file. */
-    private static int openOn(ReviewForge forge, int commit, int file, int line) {
-        forge.take(commit);
-        int place = 0;
-        while (forge.line(NONE, file, place) != NONE) {
-            place++;
-        }
-        forge.put(file, place, line);
-        return forge.open(0);
-    }
-
     /** So many changes, each on the one before it, the first one on the commit 0: their commits are 2, 3 and so on. */
     private static ReviewForge chain(int many) {
         ReviewForge forge = ready();
         for (int change = 0; change < many; change++) {
-            openOn(forge, change == 0 ? 0 : change + 1, change % 4, change);
+            House.openWithMore(forge, change == 0 ? 0 : change + 1, change % 4, change);
         }
         return forge;
     }
@@ -57,7 +46,7 @@ final class LandingEdges {
     private static ReviewForge row(int many) {
         ReviewForge forge = ready();
         for (int change = 0; change < many; change++) {
-            openOn(forge, 0, change % 4, 5);
+            House.openWithMore(forge, 0, change % 4, 5);
         }
         return forge;
     }
@@ -70,8 +59,8 @@ final class LandingEdges {
             Edge.due("the state of " + change, forge.stateOf(change), LANDED);
         }
         ReviewForge none = row(2);
-        openOn(none, 1, 0, 1);
-        openOn(none, 0, 0, 6);
+        House.openWithMore(none, 1, 0, 1);
+        House.openWithMore(none, 0, 0, 6);
         none.land(0, 3);
         int tip = none.tip(0);
         for (int change = 0; change < 3; change++) {
@@ -97,7 +86,7 @@ final class LandingEdges {
         landed.land(0, 1);
         Edge.due("up to a landed one", landed.group(3), 8 + 4);
         ReviewForge children = chain(2);
-        openOn(children, 2, 3, 9);
+        House.openWithMore(children, 2, 3, 9);
         Edge.due("not the other child of its parent", children.group(2), 4 + 1);
         Edge.says("and if some change of the group has a topic, all OPEN changes with this topic, with their parents likewise, as"
                 + " long as there are more.");
@@ -114,10 +103,10 @@ final class LandingEdges {
         topics.abandon(0, 3);
         Edge.due("an abandoned one", topics.group(4), 16);
         ReviewForge more = chain(2);
-        openOn(more, 1, 0, 5);
-        openOn(more, 4, 0, 6);
-        openOn(more, 0, 3, 7);
-        openOn(more, 6, 3, 8);
+        House.openWithMore(more, 1, 0, 5);
+        House.openWithMore(more, 4, 0, 6);
+        House.openWithMore(more, 0, 3, 7);
+        House.openWithMore(more, 6, 3, 8);
         more.setTopic(1, 0);
         more.setTopic(3, 0);
         more.setTopic(2, 1);
@@ -134,8 +123,8 @@ final class LandingEdges {
         Edge.due("a chain of twenty but the last", chain(20).group(18), (1 << 19) - 1);
         ReviewForge forge = ready();
         for (int pair = 0; pair < 4; pair++) {
-            openOn(forge, 0, pair, 1);
-            openOn(forge, forge.commitOf(2 * pair, 0), pair, 2);
+            House.openWithMore(forge, 0, pair, 1);
+            House.openWithMore(forge, forge.commitOf(2 * pair, 0), pair, 2);
         }
         for (int pair = 0; pair < 4; pair++) {
             forge.setTopic(2 * pair, pair);
@@ -244,12 +233,12 @@ final class LandingEdges {
         Edge.due("the last one", two.tip(0), 3);
         ReviewForge lines = chain(1);
         lines.setWay(0, FORWARD);
-        openOn(lines, 0, 3, 9);
+        House.openWithMore(lines, 0, 3, 9);
         lines.land(0, 1);
         Edge.due("the first one on an older tip", lines.land(0, 0), NONE);
         ReviewForge other = ready();
         other.setWay(0, FORWARD);
-        openOn(other, 1, 0, 5);
+        House.openWithMore(other, 1, 0, 5);
         other.land(0, 0);
         Edge.due("the other repository is as it was", other.tip(1) * 10 + other.commits(), 34);
     }
@@ -313,6 +302,23 @@ final class LandingEdges {
         landed.setWay(0, SQUASH);
         Edge.due("the parent has landed before: as PICK", landed.land(0, 1), 1);
         Edge.due("its lines alone are new", House.lines(landed, landed.tip(0), 1), "1");
+        ReviewForge edited = ready();
+        House.openOn(edited, 0, 0, 1);
+        House.openOn(edited, 2, 1, 2);
+        edited.land(0, 0);
+        House.openOn(edited, edited.tip(0), 0, 9);
+        edited.land(0, 2);
+        edited.setWay(0, SQUASH);
+        Edge.due("the landed parent's line is another one by now", edited.land(0, 1), 1);
+        Edge.due("which stays", House.lines(edited, edited.tip(0), 0) + "," + House.lines(edited, edited.tip(0), 1), "9,2");
+        ReviewForge abandoned = ready();
+        House.openOn(abandoned, 0, 0, 1);
+        House.openOn(abandoned, 2, 1, 2);
+        abandoned.abandon(0, 0);
+        abandoned.setWay(0, SQUASH);
+        Edge.due("an abandoned parent", abandoned.land(0, 1), 1);
+        Edge.due("does not come with it", House.lines(abandoned, abandoned.tip(0), 0) + "," + House.lines(abandoned, abandoned.tip(0), 1),
+                ",2");
         ReviewForge topic = row(2);
         topic.setWay(0, SQUASH);
         topic.setTopic(0, 0);
@@ -338,7 +344,7 @@ final class LandingEdges {
         Edge.due("one commit", namesFrom(up, 5), "0");
         Edge.due("the lines of both", House.lines(up, 5, 1) + "," + House.lines(up, 5, 2), "5,8");
         ReviewForge branches = chain(2);
-        openOn(branches, 2, 2, 7);
+        House.openWithMore(branches, 2, 2, 7);
         branches.setTopic(1, 0);
         branches.setTopic(2, 0);
         branches.setWay(0, SQUASH);
@@ -367,9 +373,9 @@ final class LandingEdges {
     /** What would land first is not in conflict; the second one is. */
     private static ReviewForge inConflict() {
         ReviewForge forge = ready();
-        openOn(forge, 1, 0, 1);
-        openOn(forge, 0, 0, 1);
-        openOn(forge, 0, 0, 2);
+        House.openWithMore(forge, 1, 0, 1);
+        House.openWithMore(forge, 0, 0, 1);
+        House.openWithMore(forge, 0, 0, 2);
         forge.land(0, 1);
         forge.setTopic(0, 0);
         forge.setTopic(2, 0);
@@ -439,7 +445,7 @@ final class LandingEdges {
         Edge.due("twenty", chain(20).land(0, 19), 20);
         ReviewForge outdated = inConflict();
         outdated.takeSet(0, 0);
-        openOn(outdated, 2, 1, 1);
+        House.openWithMore(outdated, 2, 1, 1);
         outdated.takeSet(0, 0);
         outdated.upload(0, 0);
         outdated.setTopic(3, 0);

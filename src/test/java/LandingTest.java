@@ -37,17 +37,6 @@ public final class LandingTest {
         return forge;
     }
 
-    /** Opens a change of the person 0 on a commit, with one more line at the end of a file. */
-    private static int openOn(ReviewForge forge, int commit, int file, int line) {
-        forge.take(commit);
-        int place = 0;
-        while (forge.line(NONE, file, place) != NONE) {
-            place++;
-        }
-        forge.put(file, place, line);
-        return forge.open(0);
-    }
-
     private static void ways() {
         ReviewForge forge = new ReviewForge();
         Expect.due(45, "PICK at first", forge.setWay(0, SQUASH), PICK);
@@ -63,10 +52,10 @@ public final class LandingTest {
 
     private static void groups() {
         ReviewForge forge = allReady();
-        openOn(forge, 0, 0, 1);
-        openOn(forge, 2, 1, 1);
-        openOn(forge, 3, 2, 1);
-        openOn(forge, 2, 3, 1);
+        House.openWithMore(forge, 0, 0, 1);
+        House.openWithMore(forge, 2, 1, 1);
+        House.openWithMore(forge, 3, 2, 1);
+        House.openWithMore(forge, 2, 3, 1);
         Expect.due(46, "alone", forge.group(0), 1);
         Expect.due(46, "with its parents", forge.group(2), 7);
         Expect.due(46, "not with its parent's other child", forge.group(3), 9);
@@ -82,12 +71,12 @@ public final class LandingTest {
 
     private static void groupsOfTopics() {
         ReviewForge forge = allReady();
-        openOn(forge, 0, 0, 1);
-        openOn(forge, 2, 0, 2);
-        openOn(forge, 1, 0, 3);
-        openOn(forge, 4, 0, 4);
-        openOn(forge, 0, 1, 5);
-        openOn(forge, 6, 1, 6);
+        House.openWithMore(forge, 0, 0, 1);
+        House.openWithMore(forge, 2, 0, 2);
+        House.openWithMore(forge, 1, 0, 3);
+        House.openWithMore(forge, 4, 0, 4);
+        House.openWithMore(forge, 0, 1, 5);
+        House.openWithMore(forge, 6, 1, 6);
         forge.setTopic(1, 2);
         forge.setTopic(2, 2);
         Expect.due(46, "the topic of a change", forge.group(1), 7);
@@ -103,9 +92,9 @@ public final class LandingTest {
 
     private static void picking() {
         ReviewForge forge = allReady();
-        openOn(forge, 0, 0, 1);
-        openOn(forge, 0, 1, 2);
-        openOn(forge, 3, 1, 3);
+        House.openWithMore(forge, 0, 0, 1);
+        House.openWithMore(forge, 0, 1, 2);
+        House.openWithMore(forge, 3, 1, 3);
         Expect.due(47, "land", forge.land(0, 0), 1);
         Expect.due(9, "a new commit although the base was the tip", forge.tip(0), 5);
         Expect.due(8, "ahead of it", forge.before(5), 0);
@@ -127,9 +116,9 @@ public final class LandingTest {
     private static void forwarding() {
         ReviewForge forge = allReady();
         forge.setWay(0, FORWARD);
-        openOn(forge, 0, 0, 1);
-        openOn(forge, 2, 1, 2);
-        openOn(forge, 0, 2, 3);
+        House.openWithMore(forge, 0, 0, 1);
+        House.openWithMore(forge, 2, 1, 2);
+        House.openWithMore(forge, 0, 2, 3);
         Expect.due(47, "two land", forge.land(0, 1), 2);
         Expect.due(9, "the tip", forge.tip(0), 3);
         Expect.due(6, "no new commits", forge.commits(), 5);
@@ -143,8 +132,8 @@ public final class LandingTest {
         Expect.due(23, "a landed parent", forge.parentOf(2), 10);
         Expect.due(47, "now it lands", forge.land(0, 2), 1);
         Expect.due(9, "the tip", forge.tip(0), 5);
-        openOn(forge, 5, 3, 1);
-        openOn(forge, 5, 3, 2);
+        House.openWithMore(forge, 5, 3, 1);
+        House.openWithMore(forge, 5, 3, 2);
         forge.setTopic(3, 0);
         forge.setTopic(4, 0);
         Expect.due(47, "the first one takes the tip away", forge.land(0, 3), NONE);
@@ -156,10 +145,10 @@ public final class LandingTest {
     private static void squashing() {
         ReviewForge forge = allReady();
         forge.setWay(0, SQUASH);
-        openOn(forge, 0, 0, 1);
-        openOn(forge, 2, 0, 2);
-        openOn(forge, 3, 0, 3);
-        openOn(forge, 0, 1, 9);
+        House.openWithMore(forge, 0, 0, 1);
+        House.openWithMore(forge, 2, 0, 2);
+        House.openWithMore(forge, 3, 0, 3);
+        House.openWithMore(forge, 0, 1, 9);
         Expect.due(47, "alone as PICK", forge.land(0, 3), 1);
         Expect.due(9, "alone as PICK", forge.tip(0), 6);
         Expect.due(47, "three land", forge.land(0, 2), 3);
@@ -178,10 +167,10 @@ public final class LandingTest {
     private static void squashingBranches() {
         ReviewForge forge = allReady();
         forge.setWay(0, SQUASH);
-        openOn(forge, 0, 0, 1);
-        openOn(forge, 2, 1, 2);
-        openOn(forge, 2, 2, 3);
-        openOn(forge, 2, 3, 4);
+        House.openWithMore(forge, 0, 0, 1);
+        House.openWithMore(forge, 2, 1, 2);
+        House.openWithMore(forge, 2, 2, 3);
+        House.openWithMore(forge, 2, 3, 4);
         forge.setTopic(1, 3);
         forge.setTopic(2, 3);
         Expect.due(47, "three land", forge.land(0, 2), 3);
@@ -198,10 +187,10 @@ public final class LandingTest {
     private static void aSquashedParentsCommit() {
         ReviewForge forge = allReady();
         forge.setWay(0, SQUASH);
-        openOn(forge, 0, 0, 1);
-        openOn(forge, 2, 1, 2);
-        openOn(forge, 2, 2, 3);
-        openOn(forge, 3, 3, 4);
+        House.openWithMore(forge, 0, 0, 1);
+        House.openWithMore(forge, 2, 1, 2);
+        House.openWithMore(forge, 2, 2, 3);
+        House.openWithMore(forge, 3, 3, 4);
         Expect.due(47, "the parent lands with one child", forge.land(0, 1), 2);
         Expect.due(13, "the other child", forge.rebase(0, 2), 1);
         Expect.due(8, "on that child's commit", forge.before(7), 6);
@@ -213,9 +202,9 @@ public final class LandingTest {
 
     private static void bothRepositories() {
         ReviewForge forge = allReady();
-        openOn(forge, 0, 0, 1);
-        openOn(forge, 1, 0, 2);
-        openOn(forge, 3, 0, 3);
+        House.openWithMore(forge, 0, 0, 1);
+        House.openWithMore(forge, 1, 0, 2);
+        House.openWithMore(forge, 3, 0, 3);
         forge.setTopic(0, 0);
         forge.setTopic(2, 0);
         forge.setWay(0, FORWARD);
@@ -225,8 +214,8 @@ public final class LandingTest {
         Expect.due(9, "tip(1)", forge.tip(1), 5);
         Expect.due(6, "commits()", forge.commits(), 6);
         Expect.due(10, "namedAfter(5)", forge.namedAfter(5), 2);
-        openOn(forge, 0, 0, 1);
-        openOn(forge, 1, 3, 2);
+        House.openWithMore(forge, 0, 0, 1);
+        House.openWithMore(forge, 1, 3, 2);
         forge.setTopic(3, 1);
         forge.setTopic(4, 1);
         Expect.due(47, "the one cannot, so none does", forge.land(0, 4), NONE);
@@ -237,9 +226,9 @@ public final class LandingTest {
 
     private static void conflicts() {
         ReviewForge forge = allReady();
-        openOn(forge, 0, 0, 1);
-        openOn(forge, 0, 0, 2);
-        openOn(forge, 1, 3, 3);
+        House.openWithMore(forge, 0, 0, 1);
+        House.openWithMore(forge, 0, 0, 2);
+        House.openWithMore(forge, 1, 3, 3);
         forge.setTopic(1, 0);
         forge.setTopic(2, 0);
         forge.land(0, 0);
@@ -250,7 +239,7 @@ public final class LandingTest {
         Expect.due(9, "tip(0)", forge.tip(0), 5);
         Expect.due(9, "tip(1)", forge.tip(1), 1);
         Expect.due(19, "stateOf(2)", forge.stateOf(2), OPEN);
-        openOn(forge, 0, 0, 5);
+        House.openWithMore(forge, 0, 0, 5);
         forge.setTopic(1, NONE);
         forge.setTopic(3, 0);
         Expect.due(47, "a conflict behind one that would land", forge.land(0, 2), NONE);
@@ -265,7 +254,7 @@ public final class LandingTest {
             forge.put(0, 0, 90 + many);
         }
         forge.open(0);
-        openOn(forge, 5, 0, 7);
+        House.openWithMore(forge, 5, 0, 7);
         Expect.due(47, "ten lines", forge.land(0, 4), 1);
         Expect.due(47, "eleven would be too many", forge.land(0, 5), NONE);
     }
@@ -274,8 +263,8 @@ public final class LandingTest {
     private static void anEleventhLine() {
         for (int more = 3; more <= 5; more++) {
             ReviewForge forge = allReady();
-            openOn(forge, 0, 0, 1);
-            openOn(forge, 2, 0, 2);
+            House.openWithMore(forge, 0, 0, 1);
+            House.openWithMore(forge, 2, 0, 2);
             forge.land(0, 1);
             int tip = forge.tip(0);
             for (int place = 0; place < 2; place++) {
@@ -294,9 +283,9 @@ public final class LandingTest {
     /** Lines of the same word, but of another indent, are not the same. */
     private static void indentsInMerges() {
         ReviewForge forge = allReady();
-        openOn(forge, 0, 0, 1);
-        openOn(forge, 2, 0, 2);
-        openOn(forge, 3, 0, 3);
+        House.openWithMore(forge, 0, 0, 1);
+        House.openWithMore(forge, 2, 0, 2);
+        House.openWithMore(forge, 3, 0, 3);
         forge.land(0, 2);
         int tip = forge.tip(0);
         forge.take(tip);
@@ -320,9 +309,9 @@ public final class LandingTest {
 
     private static void tooManyCommits() {
         ReviewForge forge = allReady();
-        openOn(forge, 0, 0, 1);
-        openOn(forge, 2, 0, 2);
-        openOn(forge, 0, 1, 3);
+        House.openWithMore(forge, 0, 0, 1);
+        House.openWithMore(forge, 2, 0, 2);
+        House.openWithMore(forge, 0, 1, 3);
         forge.take(0);
         forge.put(1, 0, 4);
         for (int commit = 5; commit < 79; commit++) {
@@ -340,8 +329,8 @@ public final class LandingTest {
 
     private static void notReady() {
         ReviewForge forge = new ReviewForge();
-        openOn(forge, 0, 0, 1);
-        openOn(forge, 2, 0, 2);
+        House.openWithMore(forge, 0, 0, 1);
+        House.openWithMore(forge, 2, 0, 2);
         forge.setLastResort(4);
         Expect.due(47, "not ready", forge.land(0, 0), 0);
         forge.vote(4, 0, 0, ReviewForge.REVIEW, 2);
@@ -360,9 +349,9 @@ public final class LandingTest {
 
     private static void outdated() {
         ReviewForge forge = allReady();
-        openOn(forge, 0, 0, 1);
-        openOn(forge, 2, 1, 2);
-        openOn(forge, 3, 2, 3);
+        House.openWithMore(forge, 0, 0, 1);
+        House.openWithMore(forge, 2, 1, 2);
+        House.openWithMore(forge, 3, 2, 3);
         forge.takeSet(0, 0);
         forge.put(3, 0, 4);
         forge.upload(0, 0);
@@ -379,13 +368,13 @@ public final class LandingTest {
         ReviewForge forge = new ReviewForge();
         forge.dropRule(0);
         forge.addRule(15, 64, 0);
-        openOn(forge, 0, 0, 1);
-        openOn(forge, 2, 1, 2);
-        openOn(forge, 3, 2, 3);
+        House.openWithMore(forge, 0, 0, 1);
+        House.openWithMore(forge, 2, 1, 2);
+        House.openWithMore(forge, 3, 2, 3);
         Expect.due(44, "6 is lacking", forge.lacks(1), 64);
         Expect.due(47, "but not when it lands with it", forge.land(0, 1), 2);
         Expect.due(44, "ready", forge.lacks(2), 0);
-        openOn(forge, 4, 3, 4);
+        House.openWithMore(forge, 4, 3, 4);
         forge.abandon(0, 2);
         Expect.due(47, "an abandoned parent does not land", forge.land(0, 3), 0);
         forge.addRule(15, 0, 64);
@@ -398,7 +387,7 @@ public final class LandingTest {
             forge.setWay(0, way);
             int last = 0;
             for (int change = 0; change < 20; change++) {
-                last = forge.commitOf(openOn(forge, last, change / 9, change), 0);
+                last = forge.commitOf(House.openWithMore(forge, last, change / 9, change), 0);
             }
             Expect.due(46, "all of the chain", forge.group(19), (1 << 20) - 1);
             Expect.due(47, "all of the chain", forge.land(0, 19), 20);
@@ -420,9 +409,9 @@ public final class LandingTest {
     /** By rising numbers, but a parent with a greater number ahead of the one whose parent it is. */
     private static void theOrder() {
         ReviewForge forge = allReady();
-        openOn(forge, 0, 0, 1);
-        openOn(forge, 0, 1, 2);
-        openOn(forge, 0, 2, 3);
+        House.openWithMore(forge, 0, 0, 1);
+        House.openWithMore(forge, 0, 1, 2);
+        House.openWithMore(forge, 0, 2, 3);
         forge.take(3);
         forge.put(0, 0, 1);
         forge.upload(0, 0);
@@ -439,8 +428,8 @@ public final class LandingTest {
 
     private static void landingRefused() {
         ReviewForge forge = allReady();
-        openOn(forge, 0, 0, 1);
-        openOn(forge, 0, 1, 1);
+        House.openWithMore(forge, 0, 0, 1);
+        House.openWithMore(forge, 0, 1, 1);
         Expect.index(47, forge, "no such person", () -> forge.land(6, 0));
         Expect.index(47, forge, "no such person", () -> forge.land(-1, 0));
         Expect.index(47, forge, "no such change", () -> forge.land(0, 2));
@@ -451,7 +440,7 @@ public final class LandingTest {
         forge.setTopic(1, 1);
         Expect.due(47, "who sees one of the group lands all", forge.land(1, 1), 2);
         Expect.state(47, forge, "landed", () -> forge.land(0, 0));
-        openOn(forge, 0, 2, 1);
+        House.openWithMore(forge, 0, 2, 1);
         forge.abandon(0, 2);
         Expect.state(47, forge, "abandoned", () -> forge.land(0, 2));
     }
