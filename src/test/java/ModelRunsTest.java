@@ -24,11 +24,13 @@ public final class ModelRunsTest {
     private final Model model = new Model();
     private final List<String> told = new ArrayList<>();
     private final boolean isWide;
+    private final boolean isForGroups;
     private int count;
 
     private ModelRunsTest(long seed) {
         random = new Random(seed);
         isWide = random.nextInt(4) == 0;
+        isForGroups = seed % 5 == 0;
     }
 
     public static void main(String[] args) {
@@ -51,7 +53,7 @@ public final class ModelRunsTest {
 
     /** The runs are worth something only as long as they come to these. */
     private static void needAnswers() {
-        for (String need : List.of("land = 3", "land = -1", "land = 0", "rebase throws IllegalStateException",
+        for (String need : List.of("land = 3", "land = 5", "land = -1", "land = 0", "rebase throws IllegalStateException",
                 "takeFixes throws IllegalStateException", "addRule throws IllegalStateException",
                 "answer throws IllegalStateException", "publish throws IllegalStateException")) {
             if (!ANSWERS.containsKey(need)) {
@@ -72,8 +74,15 @@ public final class ModelRunsTest {
         for (int time = 0; time < 3; time++) {
             openOne();
         }
+        if (isForGroups) {
+            fillTrunks();
+        }
         while (count < CALLS && !isWrong) {
-            scene();
+            if (isForGroups) {
+                groupScene();
+            } else {
+                scene();
+            }
         }
         sweep();
         if (isWrong) {
@@ -407,6 +416,69 @@ public final class ModelRunsTest {
                     call("rebase", person(), number);
                 }
             }
+        }
+    }
+
+    /** Files with room for changes that do not touch one another, and nothing that a change would lack. */
+    private void fillTrunks() {
+        call("addRule", 15, 0, 0);
+        for (int repository = 0; repository < 2; repository++) {
+            call("take", model.tip(repository));
+            for (int line = 0; line < 36; line++) {
+                call("put", line / 9, line % 9, line);
+            }
+            call("land", 0, call("open", repository));
+        }
+    }
+
+    private void groupScene() {
+        switch (random.nextInt(8)) {
+            case 0, 1, 2, 3 -> growGroup();
+            case 4 -> call("setTopic", change(), random.nextInt(3) - 1);
+            case 5 -> call("rebase", person(), change());
+            case 6 -> call("setWay", random.nextInt(2), pick(0, 1, 2, 2, 2));
+            default -> landGroup();
+        }
+    }
+
+    /** A line is changed on top of a change or of a trunk, as a new change or, so that a parent is higher, an old one. */
+    private void growGroup() {
+        int parent = change();
+        boolean isOnChange = random.nextInt(4) > 0 && within(parent, model.changes());
+        call("take", isOnChange ? model.commitOf(parent, model.sets(parent) - 1) : model.tip(random.nextInt(4) / 3));
+        int file = random.nextInt(4);
+        int place = 2 * random.nextInt(5);
+        if (place < sizeOf(-1, file)) {
+            call("cut", file, place);
+            call("put", file, place, 100 + random.nextInt(300));
+        }
+        int change = random.nextBoolean() ? call("open", person()) : change();
+        if (change != model.changes() - 1 || random.nextInt(4) == 0) {
+            call("upload", person(), change);
+        }
+        if (random.nextInt(3) == 0) {
+            call("setTopic", change, random.nextInt(2));
+        }
+    }
+
+    private void landGroup() {
+        int change = change();
+        int group = call("group", change);
+        for (int number = 0; number < model.changes() && group > 0; number++) {
+            boolean isOutdated = (group >> number & 1) == 1 && model.parentOf(number) % 10 == 1;
+            if (isOutdated && random.nextInt(8) > 0) {
+                call("rebase", person(), number);
+            }
+        }
+        int landed = call("land", person(), change);
+        call("commits");
+        for (int commit = model.commits() - Math.max(landed, 0); commit < model.commits(); commit++) {
+            call("namedAfter", commit);
+            call("before", commit);
+        }
+        for (int number = 0; number < model.changes() && landed > 1; number++) {
+            call("rebase", person(), number);
+            call("before", model.commitOf(number, model.sets(number) - 1));
         }
     }
 
