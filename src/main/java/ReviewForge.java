@@ -150,10 +150,10 @@ public final class ReviewForge {
             throw new IllegalStateException("no room for a change");
         }
         int base = store.baseOf(Store.DESK);
-        int number = changeList.size();
-        changeList.add(new Change(number, person, store.repositoryOf(base)));
-        addSet(person, number, Store.DESK, base);
-        return number;
+        Change its = new Change(changeList.size(), person, store.repositoryOf(base));
+        changeList.add(its);
+        addSet(person, its, Store.DESK, base);
+        return its.number;
     }
 
     public int upload(int person, int change) throws IndexOutOfBoundsException, IllegalStateException {
@@ -168,7 +168,7 @@ public final class ReviewForge {
             throw new IllegalStateException("the change would be above itself");
         }
         needRoomForCommit();
-        return addSet(person, change, Store.DESK, base);
+        return addSet(person, its, Store.DESK, base);
     }
 
     public int rebase(int person, int change) throws IndexOutOfBoundsException, IllegalStateException {
@@ -185,7 +185,7 @@ public final class ReviewForge {
         if (!comparer.mergeRows(base, current, newBase)) {
             throw new IllegalStateException("a conflict");
         }
-        return addSet(person, change, Store.MADE, newBase);
+        return addSet(person, its, Store.MADE, newBase);
     }
 
     public int abandon(int person, int change) throws IndexOutOfBoundsException, IllegalStateException {
@@ -716,16 +716,15 @@ public final class ReviewForge {
         return store.setDeskBase(base);
     }
 
-    private int addSet(int person, int change, int row, int base) {
-        Change its = changeList.get(change);
-        int earlier = store.currentOf(change);
-        int commit = store.addCommit(row, its.repository, base);
+    private int addSet(int person, Change change, int row, int base) {
+        int earlier = store.currentOf(change.number);
+        int commit = store.addCommit(row, change.repository, base);
         int kind = earlier == NONE ? REWORK : comparer.kindBetween(earlier, commit);
-        store.makeSet(commit, change, person, kind);
-        its.addCommit(commit);
-        passTurns(person, its, true);
-        noteAct(person, its);
-        return its.setCount - 1;
+        store.makeSet(commit, change.number, person, kind);
+        change.addCommit(commit);
+        passTurns(person, change, true);
+        noteAct(person, change);
+        return change.setCount - 1;
     }
 
     private boolean isAtOrAbove(int change, int start) {
@@ -739,16 +738,19 @@ public final class ReviewForge {
         return false;
     }
 
-    private int newBaseOf(Change change) {
+    /** Null without a parent. */
+    private Change findParent(Change change) {
         int parent = store.parentNumber(change.number);
-        if (parent != NONE) {
-            Change its = changeList.get(parent);
-            if (its.state == OPEN) {
-                return store.currentOf(parent);
-            }
-            if (its.state == LANDED) {
-                return its.landedWith;
-            }
+        return parent >= 0 && parent < changeList.size() ? changeList.get(parent) : null;
+    }
+
+    private int newBaseOf(Change change) {
+        Change parent = findParent(change);
+        if (parent != null && parent.state == OPEN) {
+            return store.currentOf(parent.number);
+        }
+        if (parent != null && parent.state == LANDED) {
+            return parent.landedWith;
         }
         return store.tipOf(change.repository);
     }
@@ -907,8 +909,8 @@ public final class ReviewForge {
     }
 
     private boolean isParentSettled(Change change, int group) {
-        int parent = store.parentNumber(change.number);
-        return parent == NONE || changeList.get(parent).state == LANDED || isIn(group, parent);
+        Change parent = findParent(change);
+        return parent == null || parent.state == LANDED || isIn(group, parent.number);
     }
 
     private boolean canLandIn(int group, Change change) {
@@ -1713,7 +1715,7 @@ public final class ReviewForge {
                 int earlier = group;
                 for (int number = 0; number < changes.size(); number++) {
                     if (isIn(group, number)) {
-                        group |= drawnBy(number);
+                        group |= drawnBy(changes.get(number));
                     }
                 }
                 isMore = group != earlier;
@@ -1722,13 +1724,12 @@ public final class ReviewForge {
         }
 
         /** The open parent of a change, and the open changes of its topic. */
-        private int drawnBy(int change) {
-            int topic = changes.get(change).topic;
-            int parent = store.parentNumber(change);
+        private int drawnBy(Change change) {
+            int parent = store.parentNumber(change.number);
             int drawn = 0;
             for (int number = 0; number < changes.size(); number++) {
                 Change other = changes.get(number);
-                boolean isOfTopic = topic != NONE && other.topic == topic;
+                boolean isOfTopic = change.topic != NONE && other.topic == change.topic;
                 if (other.state == OPEN && (isOfTopic || number == parent)) {
                     drawn |= 1 << number;
                 }
@@ -1783,9 +1784,9 @@ public final class ReviewForge {
         }
 
         private boolean tryOne(int change) {
-            int repository = changes.get(change).repository;
-            int tip = store.tipOf(repository);
             int current = store.currentOf(change);
+            int repository = store.repositoryOf(current);
+            int tip = store.tipOf(repository);
             if (Store.read(ways, repository) == FORWARD) {
                 Store.write(commits, change, current);
                 Store.write(store.tips, repository, current);
